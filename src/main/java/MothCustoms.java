@@ -19,6 +19,7 @@ public final class MothCustoms {
     private static final int MOST_RATE = 9;
     private static final int MOST_NIGHTS = 20;
     private static final int LATEST_NIGHT = 999;
+    private static final int ABOVE_ALL_DUTY = BOLTS * MOST_WOOL * MOST_RATE + 1;
 
     private static final int PLAIN = 0;
     private static final int PICKY = 1;
@@ -806,7 +807,7 @@ public final class MothCustoms {
             switch (kind[m]) {
                 case PICKY: return dye[b] == taste[m];
                 case GLUTTON: return true;
-                default: return Math.abs(dye[b] - taste[m]) <= 1;
+                default: return within(dye[b] - taste[m], -1, 1);
             }
         }
 
@@ -1129,7 +1130,7 @@ public final class MothCustoms {
             for (int k = 0; k < BALES; k++) {
                 tried.height[k] = 0;
             }
-            least = Integer.MAX_VALUE;
+            least = ABOVE_ALL_DUTY;
             taken = 0;
             placeFrom(this, shed, 0, 0);
         }

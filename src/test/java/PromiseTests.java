@@ -114,6 +114,7 @@ public final class PromiseTests {
         x.prick(0);
         x.go(3);
         x.see(0, 1);
+        x.ahead(20, 0);
         x.keep(1);
         due("text()", tell(x, "bolt 1 1 1; bolt 1 1;"), -30);
         due("count(3)", x.count(3), 0);
@@ -127,6 +128,7 @@ public final class PromiseTests {
         int[] rules = {3, 0, 0, 1, 0, 1, 0};
         for (int i = 0; i < 7; i++) due("rule(" + i + ")", x.rule(i), rules[i]);
         due("bolt(0, 2)", x.bolt(0, 2), 0);
+        due("count(0)", x.count(0), 0);
         due("count(1)", x.count(1), 0);
         due("count(2)", x.count(2), 0);
         due("back(1)", x.back(1), STATE);
@@ -145,6 +147,13 @@ public final class PromiseTests {
             + "bolt 1 1 0;bolt 2 2 0;bolt 3 3 0;bolt 4 4 0;bolt 5 5 0;camphor 4;camphor 3;moon 0;rate 1;"), 13);
         due("rule(5)", x.rule(5), 24);
         due("moth(3, 2)", x.moth(3, 2), 3);
+        due("text(), 160 bytes", tell(x, " ".repeat(153) + "moon 3;"), 1);
+        due("text(), 160 bytes", tell(x, " ".repeat(154) + "moon 3"), -170);
+        due("text(), 160 bytes", tell(x, " ".repeat(156) + "moon"), -170);
+        for (int i = 0; i < 7; i++) x.feed("moon 12".charAt(i));
+        x.end(6);
+        due("text(), what was behind the end is not read", x.text(), -16);
+        due("fault()", x.fault(), 2);
     }
 
     private static void faultOf(String text, int fault, int place) {
@@ -172,6 +181,9 @@ public final class PromiseTests {
         faultOf("moons 1;", 2, 0);
         faultOf("moo 1;", 2, 0);
         faultOf("a", 2, 0);
+        faultOf("z 1;", 2, 0);
+        faultOf("noon 1;", 2, 0);
+        faultOf("mool 1;", 2, 0);
         faultOf(";", 2, 0);
         faultOf("moon 1;;", 2, 7);
         faultOf("7", 2, 0);
@@ -226,6 +238,11 @@ public final class PromiseTests {
         due("rule(7)", x.rule(7), BAD);
         due("rule(-1)", x.rule(-1), BAD);
         due("rule(6), WOOL 0", told("bolt 0 0 0;").rule(6), 0);
+        MothCustoms y = told("bolt 0 1 0;bolt 0 1 0;bolt 0 1 0;bolt 0 1 0;bolt 0 1 0;camphor 4;");
+        for (int b = 0; b < 5; b++) y.prick(b);
+        due("rule(6)", y.rule(6), 31);
+        due("rule(5)", y.rule(5), 16);
+        due("moth(0, 5)", told("bolt 0 1 0;bolt 0 1 0;bolt 0 1 0;bolt 0 1 0;bolt 0 1 0;plain 1 0 0;").moth(0, 5), 31);
     }
 
     private static void bolt() {
@@ -284,6 +301,10 @@ public final class PromiseTests {
         due("fold(3, 1)", x.fold(3, 1), 3);
         piles(x, 12, 1310, 1);
         due("fold(3, 2)", x.fold(3, 2), 1);
+        MothCustoms y = told("bolt 0 1 2;bolt 0 1 2;bolt 0 1 2;bolt 0 1 2;bolt 0 1 2;");
+        due("fold(4, 2)", y.fold(4, 2), 5);
+        due("fold(0, 2)", y.fold(0, 2), 5);
+        piles(y, 1, 1, 104123);
         String before = all(x);
         for (int b : new int[] {4, -1, FAR}) due("fold(" + b + ", 0)", x.fold(b, 0), BAD);
         for (int k : new int[] {3, -1, LOW}) due("fold(0, " + k + ")", x.fold(0, k), BAD);
@@ -374,10 +395,13 @@ public final class PromiseTests {
             due("alter(1, " + i + ", 0)", x.alter(1, i, 0), most[i]);
         }
         due("moth(0, 2)", x.moth(0, 2), 2);
+        x.alter(0, 3, 1);
+        String before = all(x);
         due("alter(2, 0, 0)", x.alter(2, 0, 0), BAD);
         due("alter(-1, 0, 0)", x.alter(-1, 0, 0), BAD);
         due("alter(0, 4, 0)", x.alter(0, 4, 0), BAD);
         due("alter(0, -1, 0)", x.alter(0, -1, 0), BAD);
+        unchanged(x, before);
     }
 
     private static void set() {
@@ -495,6 +519,9 @@ public final class PromiseTests {
         due("best(0)", z.best(0), 0);
         due("best(10)", z.best(10), 1);
         due("best(11)", z.best(11), 0);
+        MothCustoms last = told("bolt 0 1 0;plain 0 1 0;plain 0 1 1;");
+        due("best(0), only the last way", last.best(0), 0);
+        due("best(10)", last.best(10), 20);
         MothCustoms five = told("bolt 0 2 2;bolt 0 2 2;bolt 0 2 2;bolt 0 2 2;bolt 0 2 2;glutton 0 9 0;glutton 0 9 1;glutton 0 9 2;");
         due("best(0), five alike", five.best(0), 2);
         for (int b = 0; b < 5; b++) due("best(1" + b + ")", five.best(10 + b), b);
@@ -518,6 +545,11 @@ public final class PromiseTests {
         due("guard(0)", y.guard(0), NONE);
         due("guard(1)", y.guard(1), NONE);
         due("guard(2)", y.guard(2), BAD);
+        // without its camphor the middle one's holes would meet those of both others: that is not asked
+        MothCustoms z = told("bolt 0 3 0;bolt 5 3 0;bolt 0 3 0;camphor 1;plain 5 3 0;");
+        for (int i = 0; i < 3; i++) z.prick(0);
+        for (int i = 0; i < 3; i++) z.prick(2);
+        due("guard(0)", z.guard(0), NONE);
     }
 
     private static void send() {
@@ -550,6 +582,10 @@ public final class PromiseTests {
         due("raise(1)", y.raise(1), 4);
         due("raise(0)", told("bolt 0 9 1;bolt 0 9 1;plain 0 7 1;").raise(0), NONE);
         due("raise(1)", told("bolt 0 9 1;bolt 0 9 1;plain 0 7 1;").raise(1), NONE);
+        due("raise(0), no BOLTS", told("plain 0 7 1;").raise(0), NONE);
+        MothCustoms five = told("bolt 0 9 0;bolt 5 9 0;bolt 5 9 0;bolt 5 9 0;bolt 0 2 0;plain 0 7 0;");
+        due("raise(0), five", five.raise(0), 4);
+        due("raise(1), five", five.raise(1), 5);
     }
 
     private static void fraction(String call, long top, long bottom, long dueTop, long dueBottom) {
@@ -675,7 +711,7 @@ public final class PromiseTests {
         due("lain(0), nothing SEEN", x.lain(0), 7);
         due("lain(1)", x.lain(1), 0);
         due("lain(2)", x.lain(2), 8);
-        int[][] seen = {{2, 4, 4}, {2, 2, 1}, {2, 0, 3}, {2, 1, 2}, {2, 3, 0}};
+        int[][] seen = {{2, 4, 4}, {2, 2, 1}, {2, 0, 3}, {2, 1, 2}, {2, 3, 0}, {0, 2, 1}, {0, 1, 2}, {0, 0, 6}};
         for (int[] s : seen) {
             x.forget(0);
             x.see(s[0], s[1]);
@@ -700,6 +736,7 @@ public final class PromiseTests {
         MothCustoms y = told("bolt 0 5 0;bolt 0 7 0;plain 0 3 1;");
         due("drift(0, 1, 0)", y.drift(0, 1, 0), 0);
         due("drift(7, 1, 0)", y.drift(7, 1, 0), 3);
+        due("drift(7, 1, 1), one BOLT", told("bolt 0 5 0;plain 0 3 1;").drift(7, 1, 1), 3);
     }
 
     private static void keep() {
