@@ -807,7 +807,7 @@ public final class MothCustoms {
             switch (kind[m]) {
                 case PICKY: return dye[b] == taste[m];
                 case GLUTTON: return true;
-                default: return within(dye[b] - taste[m], -1, 1);
+                default: return dye[b] - taste[m] <= 1 && taste[m] - dye[b] <= 1;
             }
         }
 
