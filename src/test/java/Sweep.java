@@ -22,9 +22,21 @@ public final class Sweep {
     /** What is asked of the state behind a few calls. */
     private static final int ASKED = 75;
 
-    private static final Map<String, Method> MODEL = new HashMap<>();
+    private static final Map<String, Method> MODEL = callsOfModel();
     private static long compared = 0;
     private static int failed = 0;
+
+    private static Map<String, Method> callsOfModel() {
+        Map<String, Method> calls = new HashMap<>();
+        for (String name : NAMES) {
+            for (Method m : Model.class.getDeclaredMethods()) {
+                if (m.getName().equals(name) && List.of(m.getParameterTypes()).equals(List.of(Run.ofFace(name).getParameterTypes()))) calls.put(name, m);
+            }
+        }
+        return calls;
+    }
+
+    static Method ofModel(String name) { return MODEL.get(name); }
 
     /** The program and the model behind the same calls. */
     private static final class Both {
@@ -80,11 +92,6 @@ public final class Sweep {
     }
 
     public static void main(String[] args) {
-        for (String name : NAMES) {
-            for (Method m : Model.class.getDeclaredMethods()) {
-                if (m.getName().equals(name) && List.of(m.getParameterTypes()).equals(List.of(Run.ofFace(name).getParameterTypes()))) MODEL.put(name, m);
-            }
-        }
         List<String> failing = new ArrayList<>();
         for (State s : State.values()) {
             for (String name : NAMES) {
