@@ -25,16 +25,7 @@ public final class DocumentTests {
         "bought", "pricked 0", "pricked 1", "lain 0", "drift -7 20 1", "keep 1", "back 0", "sheet 0 2 40", "lay 0 3 1", "read 0 0 0 3",
         "read 1 1 38 2", "torn", "count 0"};
 
-    private static int passed = 0, failed = 0;
-
-    private static void holds(String what, boolean is) {
-        if (is) {
-            passed++;
-            return;
-        }
-        failed++;
-        System.out.println("the document: " + what);
-    }
+    private static final Checks CHECKS = new Checks("document");
 
     private static String behind(String text, String heading) {
         int from = text.indexOf("\n## " + heading + "\n");
@@ -70,25 +61,25 @@ public final class DocumentTests {
         for (Method m : MothCustoms.class.getDeclaredMethods()) {
             if (Modifier.isPublic(m.getModifiers())) is.add((Modifier.isStatic(m.getModifiers()) ? "static " : "") + typesOf(m));
         }
-        holds("its methods are " + due + ", not " + is, !due.isEmpty() && due.equals(is));
+        CHECKS.hold("its methods are " + due + ", not " + is, !due.isEmpty() && due.equals(is));
         Set<String> constantsDue = new TreeSet<>(found(told, "(\\w+ = -\\d+)")), constants = new TreeSet<>();
         for (Field f : MothCustoms.class.getDeclaredFields()) {
             if (!Modifier.isPublic(f.getModifiers())) continue;
-            holds(f + " is a constant", f.getModifiers() == (Modifier.PUBLIC | Modifier.STATIC | Modifier.FINAL) && f.getType() == int.class);
+            CHECKS.hold(f + " is a constant", f.getModifiers() == (Modifier.PUBLIC | Modifier.STATIC | Modifier.FINAL) && f.getType() == int.class);
             constants.add(f.getName() + " = " + f.getInt(null));
         }
-        holds("its constants are " + constantsDue + ", not " + constants, constantsDue.size() == 4 && constantsDue.equals(constants));
+        CHECKS.hold("its constants are " + constantsDue + ", not " + constants, constantsDue.size() == 4 && constantsDue.equals(constants));
         Constructor<?>[] made = MothCustoms.class.getDeclaredConstructors();
-        holds("one constructor, public, of nothing", told.contains("public MothCustoms();") && made.length == 1
+        CHECKS.hold("one constructor, public, of nothing", told.contains("public MothCustoms();") && made.length == 1
             && made[0].getParameterCount() == 0 && Modifier.isPublic(made[0].getModifiers()));
-        holds("the class is final", told.contains("public final class MothCustoms {") && Modifier.isFinal(MothCustoms.class.getModifiers()));
+        CHECKS.hold("the class is final", told.contains("public final class MothCustoms {") && Modifier.isFinal(MothCustoms.class.getModifiers()));
     }
 
     private static void headings(String document) {
         List<String> face = found(behind(document, "The public face"), "public ((?:int|long) \\w+\\([^)]*\\));");
         List<String> promised = found(document, "\n`((?:int|long) \\w+\\([^)]*\\))`: ");
-        holds("each call of the face has its promise: " + face + ", " + promised, face.equals(promised));
-        holds("the constructor has its promise", document.contains("\n`MothCustoms()`: "));
+        CHECKS.hold("each call of the face has its promise: " + face + ", " + promised, face.equals(promised));
+        CHECKS.hold("the constructor has its promise", document.contains("\n`MothCustoms()`: "));
     }
 
     /** What stands ahead of the calls, and in which order they stand behind it. */
@@ -99,25 +90,25 @@ public final class DocumentTests {
             groups++;
             int from = source.indexOf("    // " + m.group(2) + "\n");
             int to = source.indexOf("    // ----", from + 1);
-            holds("the source says " + m.group(2), from >= 0 && to > from);
+            CHECKS.hold("the source says " + m.group(2), from >= 0 && to > from);
             List<String> names = from < 0 || to < from ? List.of() : found(source.substring(from, to), "\n    public \\w+ (\\w+)\\(");
-            holds("behind " + m.group(2) + " stand " + names, names.equals(found(m.group(1), "`(\\w+)`")));
+            CHECKS.hold("behind " + m.group(2) + " stand " + names, names.equals(found(m.group(1), "`(\\w+)`")));
         }
-        holds("there are groups of calls", groups > 0);
+        CHECKS.hold("there are groups of calls", groups > 0);
     }
 
     // ---- 512 calls
 
     private static void wholeLife(String document) {
         List<String> told = found(behind(document, "What it is"), "An object is used for at most (\\d+) calls after it has been made");
-        holds("an object is used for " + told + " calls", told.equals(List.of(Integer.toString(Run.MOST_CALLS))));
+        CHECKS.hold("an object is used for " + told + " calls", told.equals(List.of(Integer.toString(Run.MOST_CALLS))));
         Set<String> names = new TreeSet<>();
         for (String call : CALLS) {
             names.add(call.split(" ")[0]);
             for (State s : State.values()) life(s, call);
         }
         for (Method m : MothCustoms.class.getDeclaredMethods()) {
-            if (Modifier.isPublic(m.getModifiers())) holds("no life of " + m, names.contains(m.getName()));
+            if (Modifier.isPublic(m.getModifiers())) CHECKS.hold("no life of " + m, names.contains(m.getName()));
         }
     }
 
@@ -138,7 +129,7 @@ public final class DocumentTests {
             if (!once) want = Run.answer(model, due, args);
             same &= program.call(words[0], args) == want;
         }
-        holds(s + ": " + call + ", again and again up to call " + Run.MOST_CALLS, same);
+        CHECKS.hold(s + ": " + call + ", again and again up to call " + Run.MOST_CALLS, same);
     }
 
     public static void main(String[] args) throws IOException, IllegalAccessException {
@@ -148,7 +139,6 @@ public final class DocumentTests {
         headings(document);
         order(document, source);
         wholeLife(document);
-        System.out.println("document: " + passed + " passed, " + failed + " failed");
-        if (failed > 0) System.exit(1);
+        CHECKS.end();
     }
 }

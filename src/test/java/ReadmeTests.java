@@ -12,16 +12,7 @@ public final class ReadmeTests {
     private static final Pattern FED = Pattern.compile("for \\(char c : \"([^\"]*)\"\\.toCharArray\\(\\)\\) x\\.feed\\(c\\);");
     private static final Pattern CALL = Pattern.compile("x\\.(\\w+)\\(([^)]*)\\); *// (-?\\d+):? .*");
 
-    private static int passed = 0, failed = 0;
-
-    private static void holds(String what, boolean is) {
-        if (is) {
-            passed++;
-            return;
-        }
-        failed++;
-        System.out.println("README.md: " + what);
-    }
+    private static final Checks CHECKS = new Checks("readme");
 
     private static int[] numbers(String told) {
         if (told.isEmpty()) return new int[0];
@@ -44,9 +35,9 @@ public final class ReadmeTests {
                 r.feed(fed.group(1));
             } else if (code && r != null && call.matches()) {
                 long got = r.call(call.group(1), numbers(call.group(2)));
-                holds(line + " answered " + got, got == Long.parseLong(call.group(3)));
+                CHECKS.hold(line + " answered " + got, got == Long.parseLong(call.group(3)));
             } else if (code && !line.isEmpty()) {
-                holds("not understood: " + line, false);
+                CHECKS.hold("not understood: " + line, false);
             }
         }
     }
@@ -56,18 +47,17 @@ public final class ReadmeTests {
         for (Method m : MothCustoms.class.getDeclaredMethods()) {
             if (!Modifier.isPublic(m.getModifiers())) continue;
             String arguments = m.getParameterCount() == 0 ? "" : "\\w+(, \\w+){" + (m.getParameterCount() - 1) + "}";
-            holds("no word of " + m, Pattern.compile("`" + m.getName() + "\\(" + arguments + "\\)`").matcher(readme).find());
+            CHECKS.hold("no word of " + m, Pattern.compile("`" + m.getName() + "\\(" + arguments + "\\)`").matcher(readme).find());
         }
-        for (String answer : new String[] {"BAD", "STATE", "FULL", "NONE"}) holds("no word of " + answer, readme.contains("`" + answer + "` (-"));
-        holds("no word of " + Run.MOST_CALLS + " calls", readme.contains("At most " + Run.MOST_CALLS + " "));
-        holds("no word of .ci/run", readme.contains(".ci/run"));
+        for (String answer : new String[] {"BAD", "STATE", "FULL", "NONE"}) CHECKS.hold("no word of " + answer, readme.contains("`" + answer + "` (-"));
+        CHECKS.hold("no word of " + Run.MOST_CALLS + " calls", readme.contains("At most " + Run.MOST_CALLS + " "));
+        CHECKS.hold("no word of .ci/run", readme.contains(".ci/run"));
     }
 
     public static void main(String[] args) throws IOException {
         String readme = new String(Files.readAllBytes(Path.of(args[0])), StandardCharsets.UTF_8);
         shown(readme);
         named(readme);
-        System.out.println("readme: " + passed + " passed, " + failed + " failed");
-        if (failed > 0) System.exit(1);
+        CHECKS.end();
     }
 }
